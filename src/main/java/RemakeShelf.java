@@ -448,7 +448,8 @@ public final class RemakeShelf {
         // Of the latest make(): for each TRACE gone over what stale() tells.
         final int[] stale = new int[TRACES];
 
-        // Of the ROUND that is being done.
+        // Of the ROUND that is being done: hit is the FAILURE that it ends with once it is HIT, ring
+        // the RULES of that RING as bits, openedAt the place among those that are OPEN, 0 if it isn't.
         Outcome made;
         Outcome hit;
         int ring;
@@ -507,11 +508,12 @@ public final class RemakeShelf {
             traces[0] = used;
         }
 
-        void beginRound() {
+        void beginRound(boolean fromNothing) {
             made = null;
             hit = null;
-            ring = 0;
-            openedAt = 0;
+            if (!fromNothing) {
+                Arrays.fill(stale, NOT_THERE);
+            }
         }
     }
 
@@ -552,8 +554,8 @@ public final class RemakeShelf {
 
         int keptTraces() {
             int kept = 0;
-            for (int r = 0; r < ruleCount; r++) {
-                kept += rules[r].kept;
+            for (Rule rule : rules) {
+                kept += rule == null ? 0 : rule.kept;
             }
             return kept;
         }
@@ -577,25 +579,19 @@ public final class RemakeShelf {
 
         int run(Rule rule, boolean nothing) {
             fromNothing = nothing;
-            openCount = 0;
-            for (int r = 0; r < shelf.ruleCount; r++) {
-                shelf.rules[r].beginRound();
-            }
             if (!nothing) {
-                beginMake();
+                makes++;
+                workedCount = 0;
+                looked = 0;
+            }
+            for (Rule each : shelf.rules) {
+                if (each != null) {
+                    each.beginRound(nothing);
+                }
             }
             latest = makeRule(rule);
             latestRing = ringBehind(latest);
             return latest.isFailure() ? -10 - latest.failure : latest.row.length;
-        }
-
-        private void beginMake() {
-            makes++;
-            workedCount = 0;
-            looked = 0;
-            for (int r = 0; r < shelf.ruleCount; r++) {
-                Arrays.fill(shelf.rules[r].stale, NOT_THERE);
-            }
         }
 
         /**
@@ -628,15 +624,14 @@ public final class RemakeShelf {
         private Outcome closeRing(Rule again) {
             int ring = 0;
             Rule least = again;
-            for (int r = shelf.ruleCount - 1; r >= 0; r--) {
-                if (shelf.rules[r].openedAt >= again.openedAt) {
-                    ring |= 1 << r;
-                    least = shelf.rules[r];
+            for (Rule rule : shelf.rules) {
+                if (rule != null && rule.openedAt >= again.openedAt) {
+                    ring |= 1 << rule.number;
+                    least = rule.number < least.number ? rule : least;
                 }
             }
-            for (int r = 0; r < shelf.ruleCount; r++) {
-                Rule rule = shelf.rules[r];
-                if (rule.openedAt >= again.openedAt) {
+            for (Rule rule : shelf.rules) {
+                if (rule != null && rule.openedAt >= again.openedAt) {
                     rule.ring = ring;
                     rule.hit = least.leastOfRing;
                 }
@@ -661,7 +656,10 @@ public final class RemakeShelf {
         private Outcome lookAt(Rule rule) {
             for (int k = 0; k < rule.kept; k++) {
                 Trace trace = rule.traceAt(k);
-                int other = trace == null ? NOT_THERE : firstOther(rule, trace);
+                if (trace == null) {
+                    return null;
+                }
+                int other = firstOther(rule, trace);
                 rule.stale[k] = other;
                 if (rule.hit != null) {
                     return rule.hit;

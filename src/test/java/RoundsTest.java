@@ -12,6 +12,7 @@ public final class RoundsTest {
         count();
         failuresInTraces();
         deepest();
+        broadest();
         Rows.end();
     }
 
@@ -94,6 +95,10 @@ public final class RoundsTest {
             make(3) = 1; ring(0) = -1; of(0, 3) = 1; of(1, 3) = 0; of(2, 3) = 0; of(3, 3) = 1; trace(3, 0, -1) = 2
             worked(0) = 3; worked(1) = 2; worked(2) = 1; worked(3) = 0; worked(4) = -1
             """);
+        Rows.run("one closed ahead isn't in it, also if the ring is asked from within", """
+            rule(1, true) = 0; input(0, 18) = 1; input(0, 17) = 2; rule(1, true) = 1; input(1, 16) = 1; rule(1, true) = 2
+            make(0) = -13; ring(0) = 0; ring(1) = 1; ring(2) = -1; of(2, 3) = 1
+            """);
         Rows.run("who is hit reads no further", """
             rule(1, false) = 0; input(0, 17) = 1; input(0, 18) = 2; rule(1, false) = 1; input(1, 16) = 1; input(1, 18) = 2; rule(1, false) = 2
             make(0) = -13; worked(0) = 0; worked(1) = 1; worked(2) = -1
@@ -152,6 +157,8 @@ public final class RoundsTest {
             // the traces may go, what was told of them stays until the next make
             forget(0) = 4; stale(0, 0) = 1; become(0, 2, true) = 1; stale(0, 3) = 0; make(7) = NUMBER; stale(0, 0) = 1
             make(1) = 0; stale(0, 0) = -1; stale(1, 0) = -1; make(1) = 0; stale(1, 0) = -2; looked() = 0
+            // one that came since
+            rule(1, true) = 2; stale(2, 0) = -1; stale(2, 3) = -1
             """);
     }
 
@@ -194,5 +201,24 @@ public final class RoundsTest {
         chain.append("make(23) = -13; ring(23) = 23; anew(12) = -13; outcome(2) = 0; turn(23, 0, 33) = 1; make(0) = -13; outcome(2) = 17\n");
         chain.append("ring(0) = 17; ring(6) = 23; ring(7) = -1; turn(23, 0, 0) = 1; make(0) = 1; worked(0) = 23; worked(1) = -1\n");
         Rows.run("24 rules open at once", chain.toString());
+    }
+
+    private static void broadest() {
+        StringBuilder tree = new StringBuilder("source(0, 1) = 1; set(0, 0, 2) = 1\n");
+        for (int r = 0; r < 24; r++) {
+            tree.append("rule(2, true) = ").append(r).append('\n');
+            for (int i = 1; i <= 6; i++) {
+                // those below 4 read the next six each, the rest the source
+                int name = r < 4 && 6 * r + i < 24 ? 16 + 6 * r + i : 0;
+                tree.append("input(").append(r).append(", ").append(name).append(") = ").append(i).append('\n');
+            }
+        }
+        // 4 .. 23 have 12 each; 3 reads 19 .. 23 and the source, 62; 2 and 1 read six of them, 72
+        tree.append("make(3) = 1; part(0) = 62; make(2) = 1; part(0) = 72; make(0) = 1; part(0) = 242\n");
+        tree.append("anew(0) = 1; part(0) = 242; count(2) = 24; set(0, 0, 3) = 1; make(0) = 1; part(0) = 363; count(2) = 48\n");
+        // each one's trace differs at its first read, and it is worked as soon as that one has been
+        tree.append("worked(0) = 7; worked(1) = 1; worked(2) = 8; worked(6) = 12; worked(7) = 0; worked(8) = 13; worked(9) = 2\n");
+        tree.append("worked(23) = 6; worked(24) = -1; looked() = 24\n");
+        Rows.run("24 rules, most of them side by side", tree.toString());
     }
 }

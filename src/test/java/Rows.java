@@ -33,6 +33,11 @@ final class Rows {
         }
     }
 
+    /** As due(), for so many answers that no text is to be made of those that are right. */
+    static void right() {
+        calls++;
+    }
+
     static void tell(String title, String fault) {
         wrong++;
         System.out.println(title + ": " + fault);

@@ -18,6 +18,7 @@ public final class RulesTest {
         }
         all.append("rule(1, true) = FULL; rule(6, false) = FULL; rule(0, true) = NUMBER; rule(MIN, true) = NUMBER; count(0) = 24\n");
         all.append("of(0, 0) = 1; of(0, 1) = 1; of(23, 0) = 6; of(23, 1) = 0; of(23, 2) = 0; of(23, 3) = 0\n");
+        all.append("make(24) = NUMBER; input(24, 0) = NUMBER; forget(24) = NUMBER; of(24, 0) = FOUND; trace(24, 0, -1) = -1; stale(24, 0) = -1\n");
         Rows.run("8", all.toString());
     }
 

@@ -90,6 +90,10 @@ public final class SourcesTest {
             copy(0, 1, 0, 0, 3) = 3; told(0, 0) = 1; told(0, 1) = 2; told(0, 2) = 3; told(0, 3) = 3
             copy(0, 0, 0, 0, 4) = 4; told(0, 3) = 3
             """);
+        Rows.run("5, a rule that had read the taker finds it changed", """
+            source(0, 1) = 1; set(0, 0, 3) = 1; source(1, 2) = 2; rule(1, true) = 0; input(0, 1) = 1; make(0) = 2
+            copy(0, 0, 1, 1, 1) = 1; part(1) = 0; make(0) = 2; part(1) = 3; stale(0, 0) = 0
+            """);
         Rows.run("5, refused", """
             copy(-1, 0, 0, 0, 0) = NUMBER; copy(0, 0, 16, 0, 0) = NUMBER; copy(16, 0, 0, 0, -1) = NUMBER; found(0) = 0
             copy(0, 0, -1, 0, 0) = NUMBER; copy(MAX, 0, MIN, 0, 0) = NUMBER; found(0) = 0
