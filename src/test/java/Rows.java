@@ -1,7 +1,22 @@
 import java.lang.reflect.Method;
+import java.util.ArrayList;
+import java.util.HashMap;
+import java.util.List;
+import java.util.Map;
+import java.util.function.IntFunction;
 
 /** Runs rows such as "set(0, 1, 5) = 1" on a new object each run, and tells those that are wrong. */
 final class Rows {
+    static final int MOST_CALLS = 512;
+
+    private static final Map<String, Method> METHODS = new HashMap<>();
+
+    static {
+        for (Method method : RemakeShelf.class.getDeclaredMethods()) {
+            METHODS.put(method.getName() + "/" + method.getParameterCount(), method);
+        }
+    }
+
     private static int wrong;
     private static int calls;
 
@@ -10,19 +25,91 @@ final class Rows {
 
     static void run(String title, String rows) {
         RemakeShelf shelf = new RemakeShelf();
-        int done = 0;
+        List<String> all = split(rows);
+        for (String row : all) {
+            int equals = row.lastIndexOf('=');
+            String call = row.substring(0, equals).strip();
+            due(title + ": " + call, ask(shelf, call), number(row.substring(equals + 1)));
+        }
+        if (all.size() > MOST_CALLS) {
+            tell(title, "the run has " + all.size() + " calls, and " + MOST_CALLS + " are promised");
+        }
+    }
+
+    /** The rows one by one, without the comments between them. */
+    static List<String> split(String rows) {
+        List<String> all = new ArrayList<>();
         for (String line : rows.split("\n")) {
-            String row = line.strip();
-            if (row.isEmpty() || row.startsWith("//")) {
+            if (line.isBlank() || line.strip().startsWith("//")) {
                 continue;
             }
-            for (String one : row.split(";")) {
-                runRow(title, shelf, one.strip());
-                done++;
+            for (String row : line.split(";")) {
+                all.add(row.strip());
             }
         }
-        if (done > 512) {
-            tell(title, "the run has " + done + " calls, and 512 are promised");
+        return all;
+    }
+
+    /** The rows of all numbers from one up to another that is left out, a line each. */
+    static String each(int from, int to, IntFunction<String> rows) {
+        StringBuilder all = new StringBuilder();
+        for (int i = from; i < to; i++) {
+            all.append(rows.apply(i)).append('\n');
+        }
+        return all.toString();
+    }
+
+    /** A source with these ints. */
+    static String row(int s, int... ints) {
+        String made = "source(" + s + ", " + ints.length + ") = " + ints.length + "\n";
+        return made + each(0, ints.length, i -> "set(" + s + ", " + i + ", " + ints[i] + ") = 1");
+    }
+
+    /** The next rule, with these inputs. */
+    static String rule(int r, int kind, boolean strict, int... names) {
+        String made = "rule(" + kind + ", " + strict + ") = " + r + "\n";
+        return made + each(0, names.length, i -> "input(" + r + ", " + names[i] + ") = " + (i + 1));
+    }
+
+    /** That the latest outcome is just these ints. */
+    static String parts(int... ints) {
+        String ends = "outcome(0) = " + ints.length + "; part(-1) = 0; part(" + ints.length + ") = 0\n";
+        return ends + each(0, ints.length, i -> "part(" + i + ") = " + ints[i]);
+    }
+
+    /** That the latest trace of a rule has just these reads. */
+    static String reads(int r, int... names) {
+        String ends = "trace(" + r + ", 0, -1) = " + names.length + "; trace(" + r + ", 0, " + names.length + ") = -1\n";
+        return ends + each(0, names.length, i -> "trace(" + r + ", 0, " + i + ") = " + names[i]);
+    }
+
+    /** That just these rules were worked in the latest make(), in this order. */
+    static String workedJust(int... rules) {
+        return each(0, rules.length, i -> "worked(" + i + ") = " + rules[i]) + "worked(" + rules.length + ") = -1\n";
+    }
+
+    /** That just these rules are the ring of the latest outcome. */
+    static String ringOf(int... rules) {
+        return each(0, rules.length, i -> "ring(" + i + ") = " + rules[i]) + "ring(" + rules.length + ") = -1; ring(-1) = -1\n";
+    }
+
+    static int ask(RemakeShelf shelf, String call) {
+        int open = call.indexOf('(');
+        String inner = call.substring(open + 1, call.length() - 1).strip();
+        String[] words = inner.isEmpty() ? new String[0] : inner.split(",");
+        Method method = METHODS.get(call.substring(0, open) + "/" + words.length);
+        if (method == null) {
+            throw new IllegalArgumentException("no call " + call);
+        }
+        Object[] arguments = new Object[words.length];
+        for (int i = 0; i < words.length; i++) {
+            boolean flag = method.getParameterTypes()[i] == boolean.class;
+            arguments[i] = flag ? (Object) Boolean.valueOf(words[i].strip()) : (Object) number(words[i]);
+        }
+        try {
+            return (Integer) method.invoke(shelf, arguments);
+        } catch (ReflectiveOperationException thrown) {
+            throw new IllegalStateException(call + " threw", thrown);
         }
     }
 
@@ -48,33 +135,6 @@ final class Rows {
         if (wrong != 0) {
             System.exit(1);
         }
-    }
-
-    private static void runRow(String title, RemakeShelf shelf, String row) {
-        int equals = row.lastIndexOf('=');
-        String call = row.substring(0, equals).strip();
-        int open = call.indexOf('(');
-        String inner = call.substring(open + 1, call.length() - 1).strip();
-        String[] words = inner.isEmpty() ? new String[0] : inner.split(",");
-        due(title + ": " + call, invoke(shelf, call.substring(0, open), words), number(row.substring(equals + 1)));
-    }
-
-    private static int invoke(RemakeShelf shelf, String name, String[] words) {
-        for (Method method : RemakeShelf.class.getMethods()) {
-            if (method.getName().equals(name) && method.getParameterCount() == words.length) {
-                Object[] arguments = new Object[words.length];
-                for (int i = 0; i < words.length; i++) {
-                    boolean flag = method.getParameterTypes()[i] == boolean.class;
-                    arguments[i] = flag ? (Object) Boolean.valueOf(words[i].strip()) : (Object) number(words[i]);
-                }
-                try {
-                    return (Integer) method.invoke(shelf, arguments);
-                } catch (ReflectiveOperationException thrown) {
-                    throw new IllegalStateException(name + " threw", thrown);
-                }
-            }
-        }
-        throw new IllegalArgumentException("no call " + name);
     }
 
     private static int number(String word) {
