@@ -3,7 +3,7 @@ import java.util.Arrays;
 /**
  * The boundary cases of Terms 1 and 2: what each kind does with empty rows, with failures, without
  * inputs, with more than 24 ints, with a sum that wraps and with an int below 0 that picks. A test
- * for each sentence, which its title quotes.
+ * for each sentence, whose place and words its title tells.
  */
 public final class KindEdgesTest {
     private static final int JOIN = 1;

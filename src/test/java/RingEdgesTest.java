@@ -1,6 +1,7 @@
 /**
  * The boundary cases of rings: Terms 3 where it speaks of rules that are OPEN and HIT, and promise
- * 19. A test for each sentence, which its title quotes.
+ * 19. A test for each sentence,
+ * whose place and words its title tells.
  */
 public final class RingEdgesTest {
     public static void main(String[] args) {
@@ -65,6 +66,9 @@ public final class RingEdgesTest {
             Rows.run("Terms 3: (A STRICT or LENIENT one alike.) " + first + ", " + second,
                 Rows.rule(0, 1, first, 17) + Rows.rule(1, 1, second, 16) + rings(0, 0, 0, 1) + rings(1, 0, 0, 1));
         }
+        Rows.run("Terms 3: each of them is HIT: the lenient one between too",
+            Rows.rule(0, 1, true, 17) + Rows.rule(1, 1, false, 18) + Rows.rule(2, 1, true, 16) + rings(0, 0, 0, 1, 2) + "count(3) = 0\n"
+            + rings(1, 0, 0, 1, 2) + rings(2, 0, 0, 1, 2));
         Rows.run("Terms 3: (A STRICT or LENIENT one alike.) with another row ahead",
             Rows.row(0, 4) + Rows.rule(0, 1, false, 0, 16, 0) + rings(0, 0, 0));
     }

@@ -1,6 +1,6 @@
 /**
  * The boundary cases of promises 8 to 14, and of Terms 1 where it speaks of rules and names: a test
- * for each sentence, which its title quotes.
+ * for each sentence, whose place and words its title tells.
  */
 public final class RuleEdgesTest {
     private static final String NO_SUCH_RULE = "-1, 1, 23, 24, MAX, MIN";

@@ -1,6 +1,6 @@
 /**
  * The boundary cases of promises 1 to 7 and 24, and of Terms 1 and 4 where they speak of sources: a
- * test for each sentence, which its title quotes.
+ * test for each sentence, whose place and words its title tells.
  */
 public final class SourceEdgesTest {
     // source 0 is 1 2 3 4, source 1 is 11 12
@@ -241,6 +241,6 @@ public final class SourceEdgesTest {
         Rows.run("24: a FINDING stays the latest when a call goes well",
             "size(1) = FOUND; source(1, 1) = 1; size(1) = 1; found(0) = 1; found(1) = 1");
         Rows.run("An object is used for at most 512 calls: the last ones",
-            Rows.each(0, 510, i -> i % 2 == 0 ? "size(16) = FOUND" : "size(0) = FOUND") + "found(2) = 255; found(0) = 1");
+            Rows.each(0, 510, i -> "size(16) = FOUND") + "found(2) = 510; found(0) = 2");
     }
 }

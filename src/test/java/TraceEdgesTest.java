@@ -1,6 +1,7 @@
 /**
  * The boundary cases of Terms 3 that speak of traces: which of them are kept, which one goes, when
- * one fits, and what a round from NOTHING leaves. A test for each sentence, which its title quotes.
+ * one fits, and what a round from NOTHING leaves. A test for each sentence,
+ * whose place and words its title tells.
  */
 public final class TraceEdgesTest {
     // SUM of source 0, which is one int: a trace for each int that it has been
@@ -10,10 +11,12 @@ public final class TraceEdgesTest {
         fourAreKept();
         theOneUsedLongestAgoGoes();
         orderWhenOneFits();
+        atThatTime();
         whatFits();
         whatFitsOfFailures();
         withoutReads();
         whatComesOfATrace();
+        whatComesOfEachKind();
         onceInARound();
         fromNothing();
         most();
@@ -58,6 +61,9 @@ public final class TraceEdgesTest {
             four + fits(1, 2) + fits(0, 3) + fits(3, 2) + works(7) + works(2));
         Rows.run("Terms 3: the one that was used the longest time ago goes: .. and the three are there",
             four + fits(1, 2) + fits(0, 3) + fits(3, 2) + works(7) + fits(1, 3) + fits(0, 3) + fits(3, 3) + fits(7, 3));
+        Rows.run("Terms 3: used is also what fits when another RULE asks",
+            Rows.row(0, 0) + Rows.rule(0, 2, true, 0) + Rows.rule(1, 2, true, 16) + Rows.each(0, 4, v -> works(v)) + "set(0, 0, 0) = 1\n"
+            + "make(1) = 1; worked(0) = 1; worked(1) = -1; stale(0, 3) = -2\n" + works(4) + fits(0, 1));
         Rows.run("Terms 3: a TRACE that went and came again is the latest", four + works(4) + works(0) + fits(0, 0) + fits(4, 1));
     }
 
@@ -85,6 +91,24 @@ public final class TraceEdgesTest {
             + "stale(0, 1) = 1; stale(0, 2) = 2; stale(0, 3) = 3; looked() = 10");
     }
 
+    private static void atThatTime() {
+        String two = Rows.row(0, 1, 2) + Rows.row(1, 9) + Rows.rule(0, 1, true, 0) + "make(0) = 2\n";
+        String other = "make(0) = 2; worked(0) = 0; stale(0, 0) = 0; of(0, 3) = 2\n";
+        Rows.run("Terms 2: the OUTCOME of that at that time: ahead of set()", two + "set(0, 1, 9) = 1\n" + other + Rows.parts(1, 9));
+        Rows.run("Terms 2: the OUTCOME of that at that time: ahead of copy()",
+            two + "copy(1, 0, 0, 1, 1) = 1\n" + other + Rows.parts(1, 9));
+        Rows.run("Terms 2: the OUTCOME of that at that time: ahead of copy() within it",
+            two + "copy(0, 0, 0, 1, 1) = 1\n" + other + Rows.parts(1, 1));
+        Rows.run("Terms 2: the OUTCOME of that at that time: ahead of source()", two + "source(0, 2) = 2\n" + other + Rows.parts(0, 0));
+        Rows.run("Terms 2: the OUTCOME of that at that time: ahead of miss()",
+            two + "miss(0) = 1; make(0) = -11; worked(0) = 0; stale(0, 0) = 0; of(0, 3) = 2");
+        Rows.run("Terms 2: the OUTCOME of that at that time: a copy of nothing leaves it",
+            two + "copy(1, 1, 0, 0, 0) = 0; make(0) = 2; stale(0, 0) = -2");
+        Rows.run("Terms 2: the OUTCOME of that: all of its row, also where PICK goes by its first int",
+            Rows.row(0, 0, 5) + Rows.row(1, 7) + Rows.rule(0, 5, true, 0, 1) + "make(0) = 1; set(0, 1, 6) = 1; make(0) = 1; part(0) = 7\n"
+            + "worked(0) = 0; stale(0, 0) = 0; of(0, 3) = 2");
+    }
+
     private static void whatFits() {
         String two = Rows.row(0, 1, 2) + Rows.row(1, 3) + Rows.rule(0, 1, true, 0, 1) + "make(0) = 3\n";
         Rows.run("Terms 3: When all READS of a TRACE are as they were: all",
@@ -101,6 +125,14 @@ public final class TraceEdgesTest {
             two + Rows.row(0, 1, 2, 0) + "make(0) = 4; worked(0) = 0; stale(0, 0) = 0");
         Rows.run("Terms 3: if the OUTCOME is another one: one int less",
             two + Rows.row(0, 1) + "make(0) = 2; worked(0) = 0; stale(0, 0) = 0");
+        Rows.run("Terms 3: if the OUTCOME is another one: the same ints in another order",
+            two + Rows.row(0, 2, 1) + "make(0) = 3; worked(0) = 0; stale(0, 0) = 0; part(0) = 2");
+        Rows.run("Terms 3: if the OUTCOME is another one: an int between",
+            Rows.row(0, 1, 2, 3) + Rows.rule(0, 1, true, 0) + "make(0) = 3; set(0, 1, 9) = 1; make(0) = 3; worked(0) = 0; stale(0, 0) = 0\n"
+            + "part(1) = 9");
+        Rows.run("Terms 3: if the OUTCOME is another one: the last of 24 ints",
+            "source(0, 12) = 12; source(1, 12) = 12\n" + Rows.rule(0, 1, true, 17) + Rows.rule(1, 1, true, 0, 1)
+            + "make(0) = 24; set(1, 11, 1) = 1; make(0) = 24; stale(0, 0) = 0; stale(1, 0) = 1; part(23) = 1");
         Rows.run("Terms 3: if the OUTCOME is another one: no ints for one that is 0",
             Rows.row(0, 0) + Rows.rule(0, 2, true, 0) + "make(0) = 1; source(0, 0) = 0; make(0) = 1; worked(0) = 0; stale(0, 0) = 0\n"
             + "part(0) = 0");
@@ -117,6 +149,9 @@ public final class TraceEdgesTest {
 
     private static void whatFitsOfFailures() {
         String lenient = Rows.rule(0, 1, false, 17);
+        Rows.run("Terms 3: a TRACE that ended with a FAILURE fits when that is there again",
+            Rows.row(1, 4) + Rows.rule(0, 1, true, 1, 0) + "make(0) = -11; source(0, 1) = 1; make(0) = 2; worked(0) = 0; stale(0, 0) = 1\n"
+            + "miss(0) = 1\n" + "make(0) = -11; worked(0) = -1; stale(0, 0) = 1; stale(0, 1) = -2; outcome(1) = 1; outcome(2) = 0");
         Rows.run("Terms 3: another OUTCOME: a FAILURE for a row without ints",
             Rows.row(0) + Rows.rule(0, 1, false, 0) + "make(0) = 0; miss(0) = 1; make(0) = 0; worked(0) = 0; stale(0, 0) = 0\n"
             + "of(0, 3) = 2");
@@ -160,10 +195,31 @@ public final class TraceEdgesTest {
         Rows.run("Terms 3: a RULE that is worked to the same OUTCOME leaves the TRACE of the one above as it was",
             Rows.row(0, 3, 1) + Rows.rule(0, 1, true, 17) + Rows.rule(1, 3, true, 0) + "make(0) = 2; set(0, 0, 1) = 1; set(0, 1, 3) = 1\n"
             + "make(0) = 2\n" + Rows.workedJust(1) + "stale(0, 0) = -2; stale(1, 0) = 0; looked() = 2; of(0, 3) = 1; of(1, 3) = 2");
-        // a trace read earlier with less ints does not show through one written over it
+        // the room of a trace that went may be used again, and what was in it must not show
         Rows.run("Terms 3: a TRACE that comes behind one that went is all its own",
             Rows.row(0) + Rows.row(1, 7) + Rows.rule(0, 4, true, 0, 1) + "make(0) = 1; forget(0) = 1; source(0, 1) = 1; make(0) = 1\n"
             + "trace(0, 0, -1) = 1; trace(0, 0, 1) = -1; make(0) = 1; looked() = 1; part(0) = 0");
+    }
+
+    /** Source 1 picks for those kinds that pick; source 0 is what is read. */
+    private static void whatComesOfEachKind() {
+        for (int kind = 1; kind <= 6; kind++) {
+            String rule = kind < 5 ? Rows.rule(0, kind, true, 0) : Rows.rule(0, kind, true, 1, 0);
+            String one = Rows.row(0, 5) + Rows.row(1, 0) + rule + "make(0) = 1\n";
+            Rows.run("Terms 3: its OUTCOME is that of the RULE, as it came: kind " + kind,
+                one + "set(0, 0, 6) = 1; make(0) = 1; part(0) = 6; worked(0) = 0; set(0, 0, 5) = 1; make(0) = 1; part(0) = 5\n"
+                + "worked(0) = -1\n" + "source(0, 1) = 1; part(0) = 5; make(0) = 1; part(0) = 0; set(0, 0, 6) = 1; make(0) = 1\n"
+                + "part(0) = 6; worked(0) = -1");
+        }
+        // it had more reads when it was a TABLE, and nothing of these is left
+        int[][] due = {{7, 7}, {14}, {7, 7}, {7}, {7}, {7}};
+        for (int kind = 1; kind <= 6; kind++) {
+            int[] reads = kind == 4 ? new int[] {1} : new int[] {1, 1};
+            Rows.run("11: its TRACES go: a TABLE of more READS becomes kind " + kind,
+                Rows.row(0, 0, 0, 0, 0, 0) + Rows.row(1, 7) + Rows.rule(0, 6, true, 0, 1) + "make(0) = 5; turn(0, 0, 1) = 1; become(0, "
+                + kind + ", true) = 1; make(0) = " + due[kind - 1].length + "\n" + Rows.parts(due[kind - 1]) + Rows.reads(0, reads)
+                + "make(0) = " + due[kind - 1].length + "; worked(0) = -1; looked() = " + reads.length);
+        }
     }
 
     private static void onceInARound() {
