@@ -1,7 +1,7 @@
 /**
  * The boundary cases of rings: Terms 3 where it speaks of rules that are OPEN and HIT, and promise
- * 19. A test for each sentence,
- * whose place and words its title tells.
+ * 19. A test for each sentence, whose place
+ * and words its title tells.
  */
 public final class RingEdgesTest {
     public static void main(String[] args) {

@@ -1,7 +1,7 @@
 /**
  * The boundary cases of promises 15 to 18 and 20 to 23: what a round answers, and what is told of
- * the latest one. A test for each sentence,
- * whose place and words its title tells.
+ * the latest one. A test for each sentence, whose place
+ * and words its title tells.
  */
 public final class RoundEdgesTest {
     // rule 1 joins rule 0 and source 1, rule 0 sums source 0

@@ -1,7 +1,7 @@
 /**
  * The boundary cases of Terms 3 that speak of traces: which of them are kept, which one goes, when
- * one fits, and what a round from NOTHING leaves. A test for each sentence,
- * whose place and words its title tells.
+ * one fits, and what a round from NOTHING leaves. A test for each sentence, whose place
+ * and words its title tells.
  */
 public final class TraceEdgesTest {
     // SUM of source 0, which is one int: a trace for each int that it has been
